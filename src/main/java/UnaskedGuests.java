@@ -346,7 +346,7 @@ public final class UnaskedGuests {
         if (noComer(c) || outside(what, 1)) {
             return BAD;
         }
-        guess.bestQuestion(c);
+        guess.bestQuestion(guess.kindsLeft(c, SEEN_SPAN));
         if (what == 0 || guess.question == NONE) {
             return guess.question;
         }
@@ -627,7 +627,7 @@ public final class UnaskedGuests {
         }
 
         private static int warmed(int ofKind, int liked, int company) {
-            int asFriend = Math.min(MOST_LIKED, liked + 1);
+            int asFriend = liked < MOST_LIKED ? liked + 1 : MOST_LIKED;
             int asBore = company >= COMPANY_FOR_A_BORE ? asFriend : liked;
             switch (ofKind) {
                 case FRIEND:
@@ -635,9 +635,9 @@ public final class UnaskedGuests {
                 case BORE:
                     return asBore;
                 case AUNT:
-                    return Math.min(MOST_LIKED, asFriend + 1);
+                    return asFriend < MOST_LIKED ? asFriend + 1 : MOST_LIKED;
                 default:
-                    return Math.max(0, asBore - 1);
+                    return asBore > 0 ? asBore - 1 : 0;
             }
         }
 
@@ -833,7 +833,7 @@ public final class UnaskedGuests {
         }
 
         void sendOne(int c) {
-            beginAtWorst();
+            beginAt(-1);
             for (int i = 0; i <= now.houses; i++) {
                 int to = now.destination(i);
                 trial.restart().goes[c] = to;
@@ -842,7 +842,7 @@ public final class UnaskedGuests {
         }
 
         void sendTwo(int c, int d) {
-            beginAtWorst();
+            beginAt(-1);
             for (int i = 0; i <= now.houses; i++) {
                 for (int j = 0; j <= now.houses; j++) {
                     County sent = trial.restart();
@@ -854,7 +854,8 @@ public final class UnaskedGuests {
         }
 
         void swapTwo() {
-            beginAsItIs();
+            trial.restart();
+            beginAt(trial.dinnersIn(1));
             for (int c = 0; c < now.comers; c++) {
                 for (int d = c + 1; d < now.comers; d++) {
                     if (now.goes[c] != now.goes[d]) {
@@ -868,7 +869,8 @@ public final class UnaskedGuests {
         }
 
         void strikeOne() {
-            beginAsItIs();
+            trial.restart();
+            beginAt(trial.dinnersIn(1));
             for (int h = 0; h < now.houses; h++) {
                 for (int c = 0; c < now.comers; c++) {
                     if (now.onList(h, c)) {
@@ -880,7 +882,7 @@ public final class UnaskedGuests {
         }
 
         void bestKind(int c, int n) {
-            beginAtWorst();
+            beginAt(-1);
             for (int k = 0; k < KINDS; k++) {
                 trial.restart().kindOf[c] = k;
                 weigh(k, trial.dinnersIn(n));
@@ -912,14 +914,10 @@ public final class UnaskedGuests {
             return NONE;
         }
 
-        private void beginAtWorst() {
+        /** A plan must be better than that. */
+        private void beginAt(int begun) {
             plan = NONE;
-            dinners = -1;
-        }
-
-        private void beginAsItIs() {
-            plan = NONE;
-            dinners = Integer.bitCount(trial.tonight().begun);
+            dinners = begun;
         }
 
         private void weigh(int tried, int begun) {
@@ -1054,8 +1052,8 @@ public final class UnaskedGuests {
             return bits;
         }
 
-        void bestQuestion(int c) {
-            int left = kindsLeft(c, SEEN_SPAN);
+        /** Asked behind kindsLeft() over the whole span, of what it left. */
+        void bestQuestion(int left) {
             question = NONE;
             leftAtWorst = Integer.bitCount(left);
             for (int n = 0; n < SEEN_SPAN; n++) {
