@@ -426,14 +426,14 @@ public final class UnaskedGuests {
         County sent = trial.restart();
         int came = 0;
         int found = 0;
-        while (came < n && found == 0) {
-            int cell = f + 2 * came;
+        for (int i = 0; i < n && found == 0; i++) {
+            int cell = f + 2 * i;
             found = from.faultOfTwo(lane, cell);
             if (found == 0) {
                 int c = from.cells[cell];
                 int h = from.cells[cell + 1];
                 if (noComer(c) || now.noDestination(h)) {
-                    return ERRAND_BASE - came;
+                    return ERRAND_BASE - i;
                 }
                 sent.goes[c] = h;
                 came++;

@@ -168,6 +168,8 @@ public final class PromiseTests {
         read("house ", -16, 2);
         read("houses;", -10, 2);
         read("hous;", -10, 2);
+        read("mouse;", -10, 2);
+        read("z;", -10, 2);
         read("bored 9 0 0;", -10, 2);
         read(" ;", -11, 2);
         read("7;", -10, 2);
@@ -207,6 +209,7 @@ public final class PromiseTests {
         UnaskedGuests x = told(COUNTY);
         x.evenings(3);
         x.see(0, 0, 0);
+        x.keep(0);
         x.keep(1);
         feedAll(x, "house;house 9");
         due(-22, x.text());
@@ -214,7 +217,7 @@ public final class PromiseTests {
         due(4, x.rule(1));
         due(3, x.rule(2));
         due(1, x.count(0));
-        due(1, x.count(1));
+        due(2, x.count(1));
         feedAll(x, "aunt 0 5 7;house;");
         due(2, x.text());
         due(1, x.rule(0));
@@ -226,6 +229,7 @@ public final class PromiseTests {
         due(5, x.comer(0, 2));
         due(0, x.count(0));
         due(0, x.count(1));
+        due(STATE, x.back(0));
         due(STATE, x.back(1));
         due(0, x.text());
         due(0, x.rule(0));
@@ -422,6 +426,8 @@ public final class PromiseTests {
         due(9, warmed("aunt 0 6 9;"));
         due(2, warmed("enemy 0 4 5;"));
         due(0, warmed("enemy 0 0 5;"));
+        due(1, warmed("enemy 0 6 2;"));
+        due(0, warmed("enemy 0 6 0;"));
         due(5, warmed("enemy 0 6 5;friend 0 0 4;aunt 0 0 4;"));
         due(8, warmed("enemy 0 6 9;friend 0 0 4;aunt 0 0 4;"));
         due(8, warmed("enemy 0 0 9;friend 0 0 4;aunt 0 0 4;"));
@@ -547,6 +553,11 @@ public final class PromiseTests {
         y.fancy(1, 0, 9);
         due(12, y.swap(0));
         due(2, y.swap(1));
+        // more than as it is TONIGHT: one dinner begins already, by a swap two
+        UnaskedGuests w = told("house;house;house;friend 0 0 9;friend 1 0 9;bore 2 0 0;");
+        w.fancy(1, 0, 0);
+        due(1, w.swap(0));
+        due(2, w.swap(1));
         // with one who goes to none
         UnaskedGuests z = told("house;friend 0 0 9;friend 9 0 0;");
         due(1, z.swap(0));
@@ -568,6 +579,9 @@ public final class PromiseTests {
         UnaskedGuests y = told("house 1;house 0 1;friend 1 0 9;friend 1 0 3;");
         due(11, y.strike(0));
         due(1, y.strike(1));
+        UnaskedGuests w = told("house;house 1;bore 0 0 0;bore 1 0 0;");
+        due(11, w.strike(0));
+        due(2, w.strike(1));
         // no more than as it is: dinner begins already
         UnaskedGuests z = told("house 0;friend 0 0 4;bore 0 6 4;");
         due(NONE, z.strike(0));
@@ -591,6 +605,7 @@ public final class PromiseTests {
         due(NONE, y.late(1));
         due(5, told("house;enemy 0 0 9;").begins(0, 0));
         due(1, told("house;enemy 0 0 9;").late(0));
+        due(0, told("house 1 2;enemy 0 6 8;friend 0 0 5;friend 0 4 5;").late(0));
     }
 
     private static void most() {
@@ -794,6 +809,7 @@ public final class PromiseTests {
         x.see(0, 1, 0);
         due(0, x.kinds(0));
         due(NONE, x.ask(0, 0));
+        due(NONE, told("house;friend 0 0 4;").ask(0, 0));
         due(BAD, x.ask(1, 0));
         due(BAD, x.ask(-1, 0));
         due(BAD, x.ask(0, 2));
@@ -818,6 +834,8 @@ public final class PromiseTests {
         due(BAD, x.drift(7, 61, 0));
         due(BAD, x.drift(7, 1, 2));
         due(BAD, x.drift(7, 1, -1));
+        due(0, told("house 0;bore 0 0 0;").drift(7, 60, 0));
+        due(60 * 7, told("house 0;bore 0 0 0;").drift(7, 60, 1));
         UnaskedGuests nobody = told("house;");
         due(STATE, nobody.drift(7, 1, 0));
         due(BAD, nobody.drift(7, 0, 0));
@@ -871,6 +889,15 @@ public final class PromiseTests {
         due(0, x.likes(2, 3));
         due(2, x.house(1, 0));
         due(NONE, x.comer(0, 1));
+        // what was seen comes back as it was
+        UnaskedGuests y = told("house;house;friend 1 6 6;");
+        y.see(2, 1, 6);
+        y.keep(0);
+        y.forget(0);
+        y.see(0, 0, 7);
+        due(15, y.kinds(0));
+        y.back(0);
+        due(8, y.kinds(0));
     }
 
     private static void sheet() {
@@ -901,6 +928,9 @@ public final class PromiseTests {
         y.sheet(1, 0, 2);
         due(1, y.read(1, 0, 0, 1));
         due(0, y.comer(0, 1));
+        y.lay(1, 0, 5);
+        y.sheet(1, 0, 2);
+        due(1, y.read(1, 0, 0, 1));
     }
 
     private static void lay() {
@@ -970,6 +1000,7 @@ public final class PromiseTests {
         due(0, x.read(0, 0, Integer.MIN_VALUE, 20));
         due(0, x.read(0, 1, 0, 1));
         due(0, x.read(2, 0, 0, 1));
+        due(0, x.read(3, 0, 0, 1));
         // refused by alter(): none came; a comer, a house that there is not
         layRow(x, 1, 3, 0, 3, 2, 3, 3, 4, 0);
         due(-22, x.read(1, 0, 0, 4));
