@@ -3,13 +3,7 @@ public final class PromiseTests {
     private static final int BAD = UnaskedGuests.BAD, STATE = UnaskedGuests.STATE;
     private static final int FULL = UnaskedGuests.FULL, NONE = UnaskedGuests.NONE;
 
-    /** Three houses, four comers; dinner begins at house 0 in hour 3 and at house 1 in hour 2. */
-    private static final String COUNTY =
-            "friend 0 0 4;enemy 0 1 6;aunt 1 2 2;bore 1 0 5;house 0;house;house 2;";
-
-    private static int wrong = 0;
-    private static int promise = 0;
-    private static int row = 0;
+    private static final String COUNTY = Checks.COUNTY;
 
     public static void main(String[] args) {
         newObject();
@@ -52,39 +46,23 @@ public final class PromiseTests {
         read();
         torn();
         count();
-        System.out.println(wrong == 0 ? "all promises hold" : wrong + " answers are not as due");
-        if (wrong != 0) {
-            System.exit(1);
-        }
+        Checks.finish("all promises hold");
     }
 
     private static void begin(int number) {
-        promise = number;
-        row = 0;
+        Checks.sentence("promise " + number);
     }
 
     private static void due(long want, long got) {
-        row++;
-        if (want != got) {
-            wrong++;
-            System.out.println("promise " + promise + ", row " + row + ": answered " + got + ", due is " + want);
-        }
+        Checks.due(want, got);
     }
 
     private static void feedAll(UnaskedGuests x, String text) {
-        for (int i = 0; i < text.length(); i++) {
-            x.feed(text.charAt(i));
-        }
+        Checks.feedAll(x, text);
     }
 
     private static UnaskedGuests told(String text) {
-        UnaskedGuests x = new UnaskedGuests();
-        feedAll(x, text);
-        int lines = x.text();
-        if (lines < 0) {
-            due(0, lines);
-        }
-        return x;
+        return Checks.told(text);
     }
 
     private static void newObject() {
@@ -138,11 +116,7 @@ public final class PromiseTests {
     }
 
     private static void read(String text, int answer, int fault) {
-        UnaskedGuests x = new UnaskedGuests();
-        feedAll(x, text);
-        due(answer, x.text());
-        due(fault, x.fault());
-        due(0, x.count(2));
+        Checks.reads(text, answer, fault);
     }
 
     private static void text() {
@@ -678,8 +652,7 @@ public final class PromiseTests {
     }
 
     private static void fraction(long above, long below, long gotAbove, long gotBelow) {
-        due(above, gotAbove);
-        due(below, gotBelow);
+        Checks.fraction(above, below, gotAbove, gotBelow);
     }
 
     private static void luck() {
@@ -966,10 +939,7 @@ public final class PromiseTests {
     }
 
     private static void layRow(UnaskedGuests x, int k, int... cells) {
-        x.sheet(k, 0, cells.length);
-        for (int i = 0; i < cells.length; i++) {
-            x.lay(k, i, cells[i]);
-        }
+        Checks.layRow(x, k, 0, cells);
     }
 
     private static void read() {
