@@ -55,6 +55,15 @@ public final class TextEdges {
         }
     }
 
+    /** An object is used for at most 512 calls, and the last of them is answered as the first. */
+    static void the512thCallIsAnsweredAsTheFirst() {
+        UnaskedGuests x = new UnaskedGuests();
+        Checks.tell(x, "house;bore 0 3 4;");
+        for (int call = 19; call <= 512; call++) {
+            Checks.due("call " + call, call % 2 == 0 ? 3 : 0, call % 2 == 0 ? x.begins(0, 60) : x.runs(0, 0));
+        }
+    }
+
     static void objectsShareNothing() {
         UnaskedGuests x = Checks.told(Checks.COUNTY);
         x.sheet(0, 0, 3);
@@ -139,6 +148,23 @@ public final class TextEdges {
         Checks.feedAll(x, "house;bore");
         x.end(6);
         Checks.due(1, x.text());
+    }
+
+    /** What was fed behind the end, or ahead of an earlier text(), is no longer there to lengthen a token. */
+    static void aTokenEndsWithTheTape() {
+        UnaskedGuests x = new UnaskedGuests();
+        Checks.feedAll(x, "house;");
+        x.end(4);
+        Checks.due(-10, x.text());
+        Checks.due(2, x.fault());
+        Checks.feedAll(x, "house 012");
+        x.end(8);
+        Checks.due(-18, x.text());
+        Checks.due(2, x.fault());
+        Checks.due(-15, Checks.tell(x, "house"));
+        Checks.due(2, x.fault());
+        Checks.due(2, Checks.tell(x, "house;house;"));
+        Checks.due(0, x.text());
     }
 
     static void anEndThatIsBadKeepsAll() {

@@ -32,7 +32,7 @@ final class Checks {
 
     static void due(String call, long want, long got) {
         if (want != got) {
-            wrong("" + call + " answered " + got + ", due is " + want);
+            wrong(call + " answered " + got + ", due is " + want);
         }
     }
 
@@ -71,6 +71,9 @@ final class Checks {
                 e.getCause().printStackTrace(System.out);
                 wrong(m.getName() + " threw " + e.getCause());
             }
+        }
+        if (byName.isEmpty()) {
+            wrong("there are no tests in " + tests.getName());
         }
         finish(byName.size() + " tests of " + tests.getName() + " hold");
     }
