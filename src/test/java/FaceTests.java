@@ -1,9 +1,11 @@
 import java.lang.management.ManagementFactory;
+import java.lang.reflect.Constructor;
 import java.lang.reflect.Field;
 import java.lang.reflect.Method;
 import java.lang.reflect.Modifier;
 import java.nio.file.Files;
 import java.nio.file.Path;
+import java.util.Arrays;
 import java.util.Random;
 import java.util.Set;
 import java.util.TreeSet;
@@ -60,11 +62,57 @@ public final class FaceTests {
         if (!constants.equals(Set.of("BAD", "STATE", "FULL", "NONE"))) {
             fail("the constants are " + constants);
         }
-        if (!Modifier.isFinal(UnaskedGuests.class.getModifiers())) {
-            fail("the class is not final");
+        Constructor<?>[] made = UnaskedGuests.class.getDeclaredConstructors();
+        if (made.length != 1 || made[0].getParameterCount() != 0 || !Modifier.isPublic(made[0].getModifiers())) {
+            fail("the constructors are " + Arrays.toString(made));
         }
-        if (UnaskedGuests.class.getDeclaredClasses().length > 12) {
+        int is = UnaskedGuests.class.getModifiers();
+        if (!Modifier.isFinal(is) || !Modifier.isPublic(is)) {
+            fail("the class is not public and final");
+        }
+        if (UnaskedGuests.BAD != -1 || UnaskedGuests.STATE != -2 || UnaskedGuests.FULL != -3 || UnaskedGuests.NONE != -4) {
+            fail("the constants have other values");
+        }
+    }
+
+    /** Rules 1, 5 and 11 of LANGUAGE.md, as far as they show from outside. */
+    private static void classesInside() {
+        Set<String> names = new TreeSet<>();
+        for (String m : FACE) {
+            names.add(m.substring(m.indexOf(' ') + 1, m.indexOf('(')));
+        }
+        Class<?>[] inside = UnaskedGuests.class.getDeclaredClasses();
+        if (inside.length + 1 > 12) {
             fail("more than some twelve classes");
+        }
+        notNamedAs(names, UnaskedGuests.class);
+        for (Class<?> c : inside) {
+            int is = c.getModifiers();
+            if (!Modifier.isStatic(is) || Modifier.isPublic(is) || Modifier.isProtected(is)) {
+                fail(c + " is not static and hidden");
+            }
+            notNamedAs(names, c);
+            int fields = 0;
+            for (Field f : c.getDeclaredFields()) {
+                fields += Modifier.isStatic(f.getModifiers()) ? 0 : 1;
+                if (Modifier.isStatic(f.getModifiers()) && !Modifier.isFinal(f.getModifiers())) {
+                    fail("static and not final: " + f);
+                }
+            }
+            if (fields > 20) {
+                fail(c + " has " + fields + " fields");
+            }
+        }
+    }
+
+    private static void notNamedAs(Set<String> names, Class<?> c) {
+        for (Method m : c.getDeclaredMethods()) {
+            if (!Modifier.isPublic(m.getModifiers()) && names.contains(m.getName())) {
+                fail(m + " bears the name of a public method");
+            }
+            if (m.getParameterCount() > 7) {
+                fail(m + " takes more than seven");
+            }
         }
     }
 
@@ -150,6 +198,7 @@ public final class FaceTests {
 
     public static void main(String[] args) throws Exception {
         face();
+        classesInside();
         source(args.length > 0 ? args[0] : "src/main/java/UnaskedGuests.java");
         wildCalls();
         room();
